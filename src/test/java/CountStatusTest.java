@@ -82,6 +82,12 @@ final class CountStatusTest {
         due.is("no hour", x.status(), -1);
         x.pair(0);
         due.is("pair", x.status(), 0);
+        x.pair(0);
+        due.is("pair with an answer above 0", x.status(), 0);
+        x.judge();
+        due.is("judge with an answer above 0", x.status(), 0);
+        x.witness(0);
+        due.is("witness with an answer above 0", x.status(), 0);
         x.ballot(0, 0, 0, 0, 0, 0);
         due.is("no judge of it", x.status(), -3);
         x.ballot(0, 0, 1, 0, 0, 0);

@@ -11,6 +11,9 @@ final class RoundTest {
         judgesOnce();
         metAsFewAsCanBe();
         closeWins();
+        allHaveMet();
+        byeOfTheFirst();
+        fullWeek();
         met();
         due.finish();
     }
@@ -147,6 +150,64 @@ final class RoundTest {
         pairIs(x, 1, 0, 0, 2);
         pairIs(x, 1, 1, 1, 4);
         pairIs(x, 1, 2, 5, 3);
+    }
+
+    /** Where all have met, the squares decide among pairs that all count as met. */
+    private static void allHaveMet() {
+        MockTrials x = Due.with(4, 8);
+        x.pair(0);
+        x.ballot(0, 0, 0, 9, 1, 0);
+        x.ballot(0, 1, 2, 9, 1, 0);
+        x.pair(0);
+        pairIs(x, 1, 0, 0, 2);
+        pairIs(x, 1, 1, 1, 3);
+        x.ballot(1, 0, 4, 1, 9, 0);
+        x.ballot(1, 1, 6, 1, 9, 0);
+        x.pair(0);
+        pairIs(x, 2, 0, 2, 1);
+        pairIs(x, 2, 1, 3, 0);
+        // Wins 4 2 2 0 of 2 0 3 1: 2 with 0 and 3 with 1 make 8, 2 with 1 and 0 with 3 would make 16.
+        x.pair(0);
+        pairIs(x, 3, 0, 2, 0);
+        pairIs(x, 3, 1, 3, 1);
+    }
+
+    private static void byeOfTheFirst() {
+        MockTrials x = Due.with(3, 4);
+        x.pair(0);
+        x.pair(0);
+        pairIs(x, 1, 0, 2, 0);
+        due.is("bye of 1", x.trial(1, -1, 1), 1);
+        x.ballot(0, 0, 0, 90, 10, 1);
+        x.ballot(1, 0, 2, 10, 90, 1);
+        due.is("0 is the first", x.at(0, 1), 0);
+        x.pair(1);
+        due.is("the others had theirs", x.trial(2, -1, 1), 0);
+        due.is("1 and 2 meet", x.met(1, 2), 1);
+    }
+
+    private static void fullWeek() {
+        MockTrials x = Due.with(14, 20);
+        for (int round = 0; round < 8; round++) {
+            due.is("round", x.pair(0), round);
+            due.is("status", x.status(), 0);
+            due.is("trials", x.trial(round, -1, 0), 7);
+        }
+        for (int a = 0; a < 14; a++) {
+            int all = 0;
+            for (int b = 0; b < 14; b++) {
+                all += x.met(a, b);
+                due.is("none meet twice", x.met(a, b) > 1 ? 1 : 0, 0);
+            }
+            due.is("eight were met", all, 8);
+            due.is("no wins without ballots", x.of(a, 0, 0), 0);
+            due.is("in order of number", x.at(a, 0), a);
+        }
+        due.is("the last trial's room", x.trial(7, 6, 2), 6);
+        due.is("behind the last trial", x.trial(7, 7, 0), -1);
+        due.is("behind the last round", x.trial(8, 0, 0), -1);
+        due.is("behind the last round", x.trial(8, -1, 0), -1);
+        due.is("a ballot behind the last round", x.ballot(8, 0, 0, 0, 0, 0), -2);
     }
 
     private static void met() {

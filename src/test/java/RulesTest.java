@@ -67,6 +67,14 @@ final class RulesTest {
         bad("sustain leading if cross and or", 29);
         bad("sustain leading if not", 22);
         bad("sustain leading if crossing", 19);
+        bad("sustain leading if crossz", 19);
+        bad("sustain leading if crossa", 19);
+        bad("sustain leading if cross{", 24);
+        bad("sustain leading if cross`", 24);
+        bad("sustain leading if fact/", 23);
+        bad("sustain leading if fact:", 23);
+        bad("sustain leading if fact 19 29", 27);
+        bad("sustain leading if fact 39", 24);
         bad("sustain leading if fact", 23);
         bad("sustain leading if fact ;", 24);
         bad("sustain leading if fact cross", 24);

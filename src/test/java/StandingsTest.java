@@ -175,6 +175,9 @@ final class StandingsTest {
         orderIs(x, 0, 2, 1);
         x.gone(0, false);
         orderIs(x, 0, 0, 2, 1);
+        x.gone(1, true);
+        due.is("the last one leaves no place behind", x.of(1, 0, 4), -1);
+        orderIs(x, 0, 0, 2);
     }
 
     private static void wrongNumbers() {
