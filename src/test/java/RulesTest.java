@@ -1,6 +1,7 @@
 /** Promises 20, 21 and 22: rules, fault, object. */
 final class RulesTest {
     private static final Due due = new Due();
+    private static final Texts texts = new Texts(due);
 
     public static void main(String[] args) {
         goodTexts();
@@ -17,21 +18,11 @@ final class RulesTest {
     }
 
     private static void good(String text, int many) {
-        MockTrials x = new MockTrials();
-        due.is("rules of \"" + text + "\"", Due.rules(x, text), many);
-        due.is("fault", x.fault(), -1);
-        due.is("status", x.status(), 0);
-        due.is("count", x.count(8), many);
-        due.is("the tape is empty", x.count(9), 0);
+        texts.good(text, many);
     }
 
     private static void bad(String text, int place) {
-        MockTrials x = new MockTrials();
-        due.is("rules of \"" + text + "\"", Due.rules(x, text), -6);
-        due.is("fault of \"" + text + "\"", x.fault(), place);
-        due.is("status", x.status(), -6);
-        due.is("count", x.count(8), 0);
-        due.is("the tape is empty", x.count(9), 0);
+        texts.bad(text, place);
     }
 
     private static void goodTexts() {
@@ -112,16 +103,8 @@ final class RulesTest {
         bad(head + "(not not not not not not not cross and ((((((((asked)))))))))", 19 + 39 + 7);
     }
 
-    private static String times(String text, int many) {
-        StringBuilder all = new StringBuilder();
-        for (int i = 0; i < many; i++) {
-            all.append(text);
-        }
-        return all.toString();
-    }
-
     private static void manyRules() {
-        String nineteen = times("sustain leading;", 19);
+        String nineteen = Texts.times("sustain leading;", 19);
         good(nineteen + "sustain leading", 20);
         bad(nineteen + "sustain leading;", 320);
         bad(nineteen + "sustain leading;sustain leading", 320);
@@ -132,14 +115,14 @@ final class RulesTest {
 
     private static void fullTape() {
         String head = "sustain leading if cross";
-        String text = head + times(" or cross", 41) + "       ";
+        String text = head + Texts.times(" or cross", 41) + "       ";
         due.is("length", text.length(), 400);
         good(text, 1);
         bad(text.substring(0, 399) + "x", 399);
-        bad(times("(", 400), 0);
-        bad(head + times(" and not", 47), 33);
-        bad(head + times(" or asked", 41) + "     or", 400);
-        good(times(" ", 400), 0);
+        bad(Texts.times("(", 400), 0);
+        bad(head + Texts.times(" and not", 47), 33);
+        bad(head + Texts.times(" or asked", 41) + "     or", 400);
+        good(Texts.times(" ", 400), 0);
     }
 
     private static void theyStay() {
