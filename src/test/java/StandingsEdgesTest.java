@@ -16,6 +16,7 @@ final class StandingsEdgesTest {
         aheadByHalves();
         aheadByWinsMet();
         winsOfGoneOnes();
+        toldLast();
         aheadByMargins();
         aheadByNumber();
         ofNumbers();
@@ -189,6 +190,29 @@ final class StandingsEdgesTest {
         ofIs(gone, 0, 0, 0, 0, 2, -1000);
         ofIs(gone, 1, 0, 2, 2, 0, 1000);
         orderIs(gone, 0, 2, 0, 3);
+        Effect.Made accuser = Weeks.then(made, x -> x.gone(2, true));
+        ofIs(accuser, 3, 0, 0, 0, 2, -1000);
+        orderIs(accuser, 0, 1, 0, 3);
+    }
+
+    private static void toldLast() {
+        due.sentence("the BALLOT told last of a TRIAL and JUDGE counts, of those known by then");
+        Effect.Made made = Weeks.then(SEATED, x -> {
+            x.ballot(0, 0, 0, 90, 10, 20);
+            x.ballot(0, 0, 0, 30, 70, 10);
+            x.ballot(0, 0, 1, 50, 50, 15);
+        });
+        ofIs(made, 1, 9, 0, 0, 0, 0);
+        ofIs(made, 1, 10, 2, 2, 0, 1000);
+        ofIs(made, 1, 15, 2, 3, 0, 1000);
+        // The earlier one is known by now, too, but the other was told last.
+        ofIs(made, 1, 20, 2, 3, 0, 1000);
+        ofIs(made, 0, 100000, 0, 1, 2, -1000);
+        effect.asked("span as known at 20", made, x -> x.span(0, 20), 40);
+        Effect.Made back = Weeks.then(made, x -> x.ballot(0, 0, 0, 90, 10, 12));
+        ofIs(back, 1, 11, 2, 2, 0, 1000);
+        ofIs(back, 1, 12, 0, 0, 2, -1000);
+        ofIs(back, 1, 20, 0, 1, 2, -1000);
     }
 
     private static void aheadByMargins() {
